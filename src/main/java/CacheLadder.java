@@ -36,8 +36,8 @@ public final class CacheLadder {
     private final int[] answered = new int[BLOCK_WORDS];
     private final int[] given = new int[BLOCK_WORDS];
     private int height;
-    private int loads;
-    private int stores;
+    private int loadCount;
+    private int storeCount;
     private boolean accessed;
 
     /** One place of a set: it holds a line while it has a block. */
@@ -338,7 +338,7 @@ public final class CacheLadder {
     }
 
     public int traffic(boolean stores) {
-        return stores ? this.stores : loads;
+        return stores ? storeCount : loadCount;
     }
 
     public int line(int tier, int set, int way) throws IndexOutOfBoundsException {
@@ -451,7 +451,7 @@ public final class CacheLadder {
 
     private void readAt(int level, int block, int[] answer) {
         if (level >= height) {
-            loads++;
+            loadCount++;
             System.arraycopy(store, block * BLOCK_WORDS, answer, 0, BLOCK_WORDS);
             return;
         }
@@ -529,7 +529,7 @@ public final class CacheLadder {
 
     private void writeAt(int level, int block, int bits, int[] words) {
         if (level >= height) {
-            stores++;
+            storeCount++;
             copyWords(bits, words, store, block * BLOCK_WORDS);
         } else if (ladder[level].writing == AROUND) {
             writeAround(level, block, bits, words);

@@ -1,0 +1,170 @@
+import java.util.Random;
+
+/**
+ * Long runs of calls with ladders of every kind, each answer held against PlainLadder's, and the
+ * newest words against a plain array wherever the document keeps them.
+ */
+public final class LongRunsTest {
+    private static final Check check = new Check("LongRunsTest");
+    private static final int RUNS = 1200;
+    private static final int CALLS = 150;
+
+    private final String name;
+    private final Random random;
+    private final CacheLadder x = new CacheLadder();
+    private final PlainLadder plain = new PlainLadder();
+    private final int[] newest = new int[1024];
+    private final int span;
+    private boolean keepsNewest = true;
+
+    private LongRunsTest(int seed) {
+        name = "run " + seed + ", ";
+        // The seed is fixed, so that each run is the same each time.
+        random = new Random(seed);
+        span = 16 << random.nextInt(7);
+    }
+
+    public static void main(String[] args) {
+        for (int seed = 0; seed < RUNS; seed++) {
+            new LongRunsTest(seed).play();
+        }
+        check.end();
+    }
+
+    private void play() {
+        int tiers = random.nextInt(10) == 0 ? 0 : 1 + random.nextInt(4);
+        for (int tier = 0; tier < tiers; tier++) {
+            addTier(tier);
+        }
+        for (int call = 0; call < CALLS; call++) {
+            callOne(tiers);
+            callWrongly(tiers);
+            compareTraffic(call);
+        }
+        compareAll();
+    }
+
+    private void addTier(int tier) {
+        int sets = 1 << random.nextInt(random.nextBoolean() ? 2 : 5);
+        int ways = 1 + random.nextInt(4);
+        int choosing = random.nextInt(4);
+        int writing = random.nextInt(3);
+        boolean closed = random.nextInt(3) == 0;
+        // Two tiers above can have a word dirty each; then the older one may be written last.
+        keepsNewest &= !(closed && writing == 2 && tier >= 2);
+        check.due(name + "tier", x.tier(sets, ways, choosing, writing, closed), tier);
+        plain.tier(sets, ways, choosing, writing, closed);
+    }
+
+    private void callOne(int tiers) {
+        int word = random.nextInt(span);
+        int kind = random.nextInt(100);
+        if (kind < 35) {
+            check.due(name + "read(" + word + ")", x.read(word), plain.read(word));
+        } else if (kind < 70) {
+            int value = random.nextInt(1000);
+            x.write(word, value);
+            plain.write(word, value);
+            newest[word] = value;
+        } else if (kind < 85) {
+            fill(word);
+        } else if (kind < 87) {
+            run();
+        } else if (kind < 88) {
+            check.due(name + "crash()", x.crash(), plain.crash());
+            System.arraycopy(plain.ground.words, 0, newest, 0, 1024);
+        } else if (kind < 94 && tiers > 0) {
+            int tier = random.nextInt(tiers);
+            check.due(name + "flush(" + tier + ")", x.flush(tier), plain.flush(tier));
+        } else if (kind < 96 && tiers > 0) {
+            int tier = random.nextInt(tiers);
+            check.due(name + "empty(" + tier + ")", x.empty(tier), plain.empty(tier));
+        } else {
+            check.due(name + "peek(" + word + ")", x.peek(word), plain.peek(word));
+        }
+    }
+
+    /** A call that throws changes nothing: what is compared later tells. */
+    private void callWrongly(int tiers) {
+        int far = 1024 + random.nextInt(8);
+        switch (random.nextInt(12)) {
+            case 0 -> check.bounds(name + "read(" + far + ")", () -> x.read(far));
+            case 1 -> check.bounds(name + "write(" + far + ")", () -> x.write(far, 1));
+            case 2 -> check.bounds(name + "fill to " + far, () -> x.fill(0, far + 1, 1, 1));
+            case 3 -> check.argument(name + "fill of none", () -> x.fill(0, 0, 1, 1));
+            case 4 -> check.argument(name + "run of 201", () -> x.run(1, 201, span));
+            case 5 -> check.bounds(name + "flush(" + tiers + ")", () -> x.flush(tiers));
+            case 6 -> check.bounds(name + "empty(" + tiers + ")", () -> x.empty(tiers));
+            case 7 -> check.argument(name + "tier of 3 sets", () -> x.tier(3, 1, 0, 0, false));
+            default -> check.due(name + "tiers()", x.tiers(), tiers);
+        }
+    }
+
+    private void fill(int word) {
+        int n = 1 + random.nextInt(Math.min(20, span - word));
+        int value = random.nextInt(1000);
+        int step = random.nextInt(5) - 2;
+        x.fill(word, n, value, step);
+        plain.fill(word, n, value, step);
+        for (int i = 0; i < n; i++) {
+            newest[word + i] = value + i * step;
+        }
+    }
+
+    private void run() {
+        int seed = random.nextInt();
+        int n = random.nextInt(60);
+        int want = 0;
+        int row = seed;
+        for (int i = 0; i < n; i++) {
+            row = 1103515245 * row + 12345;
+            int word = (row >>> 8) % span;
+            if (((row >>> 20) & 3) == 0) {
+                plain.write(word, row);
+                newest[word] = row;
+            } else {
+                want += plain.read(word);
+            }
+        }
+        check.due(name + "run(" + seed + ", " + n + ", " + span + ")", x.run(seed, n, span), want);
+    }
+
+    private void compareTraffic(int call) {
+        check.due(name + "astray() behind call " + call, x.astray(), 0);
+        check.due(name + "traffic behind call " + call, Check.traffic(x), plain.ground.loads + " " + plain.ground.stores);
+        for (PlainLadder.Shelf shelf : plain.shelves) {
+            int set = random.nextInt(shelf.sets);
+            int want = shelf.isFull(set) ? shelf.cards[set][shelf.chosenWay(set, false)].block : -1;
+            check.due(name + "next behind call " + call, x.next(shelf.number, set), want);
+        }
+    }
+
+    private void compareAll() {
+        for (int word = 0; word < 1024; word++) {
+            check.due(name + "stored(" + word + ")", x.stored(word), plain.ground.words[word]);
+            check.due(name + "peek(" + word + ")", x.peek(word), keepsNewest ? newest[word] : plain.peek(word));
+        }
+        for (PlainLadder.Shelf shelf : plain.shelves) {
+            compareShelf(shelf);
+        }
+    }
+
+    private void compareShelf(PlainLadder.Shelf shelf) {
+        int tier = shelf.number;
+        for (int what = 0; what < 6; what++) {
+            check.due(name + "count(" + tier + ", " + what + ")", x.count(tier, what), shelf.counts[what]);
+        }
+        for (int set = 0; set < shelf.sets; set++) {
+            for (int way = 0; way < shelf.ways; way++) {
+                PlainLadder.Card card = shelf.cards[set][way];
+                check.due(name + "line(" + tier + ", " + set + ", " + way + ")",
+                        x.line(tier, set, way), card == null ? -1 : card.block);
+            }
+        }
+        for (int block = 0; block < 256; block++) {
+            PlainLadder.Card card = shelf.card(block);
+            check.due(name + "way(" + tier + ", " + block + ")", x.way(tier, block), shelf.wayOf(block));
+            check.due(name + "dirty(" + tier + ", " + block + ")", x.dirty(tier, block), card == null ? -1 : card.bits());
+        }
+    }
+}
