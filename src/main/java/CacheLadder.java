@@ -282,7 +282,8 @@ public final class CacheLadder {
 
     public int peek(int word) throws IndexOutOfBoundsException {
         needWord(word);
-        return newest(word);
+        Line line = uppermost(blockOf(word));
+        return line == null ? store[word] : line.words[word % BLOCK_WORDS];
     }
 
     public int stored(int word) throws IndexOutOfBoundsException {
@@ -317,9 +318,10 @@ public final class CacheLadder {
 
     public int crash() {
         int lost = 0;
-        for (int word = 0; word < WORDS; word++) {
-            if (newest(word) != store[word]) {
-                lost++;
+        for (int block = 0; block < BLOCKS; block++) {
+            Line line = uppermost(block);
+            if (line != null) {
+                lost += wordsUnlikeStore(line);
             }
         }
         for (int level = 0; level < height; level++) {
@@ -439,14 +441,25 @@ public final class CacheLadder {
         writeAt(0, blockOf(word), 1 << (word % BLOCK_WORDS), given);
     }
 
-    private int newest(int word) {
+    /** The line of a block that has its newest words, if any: all writes come from above. */
+    private Line uppermost(int block) {
         for (int level = 0; level < height; level++) {
-            Line line = ladder[level].find(blockOf(word));
+            Line line = ladder[level].find(block);
             if (line != null) {
-                return line.words[word % BLOCK_WORDS];
+                return line;
             }
         }
-        return store[word];
+        return null;
+    }
+
+    private int wordsUnlikeStore(Line line) {
+        int unlike = 0;
+        for (int i = 0; i < BLOCK_WORDS; i++) {
+            if (line.words[i] != store[line.block * BLOCK_WORDS + i]) {
+                unlike++;
+            }
+        }
+        return unlike;
     }
 
     private void readAt(int level, int block, int[] answer) {
