@@ -40,7 +40,8 @@ final class Check {
         due(what, thrownBy(call), "IllegalStateException");
     }
 
-    private static String thrownBy(Runnable call) {
+    /** The name of what a call throws, or that it throws nothing. */
+    static String thrownBy(Runnable call) {
         try {
             call.run();
         } catch (RuntimeException e) {

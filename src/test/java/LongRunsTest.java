@@ -1,4 +1,5 @@
 import java.util.Random;
+import java.util.function.Consumer;
 
 /**
  * Long runs of calls with ladders of every kind, each answer held against PlainLadder's, and the
@@ -8,10 +9,15 @@ public final class LongRunsTest {
     private static final Check check = new Check("LongRunsTest");
     private static final int RUNS = 1200;
     private static final int CALLS = 150;
+    // Seldom enough that no object is called more often than 512 times.
+    private static final int STEP = 6;
+    private static final String ARGUMENT = "IllegalArgumentException";
+    private static final String BOUNDS = "IndexOutOfBoundsException";
 
     private final String name;
     private final Random random;
     private final CacheLadder x = new CacheLadder();
+    private final Scene scene;
     private final PlainLadder plain = new PlainLadder();
     private final int[] newest = new int[1024];
     private final int span;
@@ -19,6 +25,7 @@ public final class LongRunsTest {
 
     private LongRunsTest(int seed) {
         name = "run " + seed + ", ";
+        scene = new Scene(name);
         // The seed is fixed, so that each run is the same each time.
         random = new Random(seed);
         span = 16 << random.nextInt(7);
@@ -39,7 +46,9 @@ public final class LongRunsTest {
         for (int call = 0; call < CALLS; call++) {
             callOne(tiers);
             callWrongly(tiers);
-            compareTraffic(call);
+            if (call % STEP == 0) {
+                compareTraffic(call);
+            }
         }
         compareAll();
     }
@@ -54,6 +63,7 @@ public final class LongRunsTest {
         keepsNewest &= !(closed && writing == 2 && tier >= 2);
         check.due(name + "tier", x.tier(sets, ways, choosing, writing, closed), tier);
         plain.tier(sets, ways, choosing, writing, closed);
+        scene.tier(sets, ways, choosing, writing, closed);
     }
 
     private void callOne(int tiers) {
@@ -61,10 +71,12 @@ public final class LongRunsTest {
         int kind = random.nextInt(100);
         if (kind < 35) {
             check.due(name + "read(" + word + ")", x.read(word), plain.read(word));
+            scene.access(y -> y.read(word));
         } else if (kind < 70) {
             int value = random.nextInt(1000);
             x.write(word, value);
             plain.write(word, value);
+            scene.access(y -> y.write(word, value));
             newest[word] = value;
         } else if (kind < 85) {
             fill(word);
@@ -72,13 +84,16 @@ public final class LongRunsTest {
             run();
         } else if (kind < 88) {
             check.due(name + "crash()", x.crash(), plain.crash());
+            scene.call(CacheLadder::crash);
             System.arraycopy(plain.ground.words, 0, newest, 0, 1024);
         } else if (kind < 94 && tiers > 0) {
             int tier = random.nextInt(tiers);
             check.due(name + "flush(" + tier + ")", x.flush(tier), plain.flush(tier));
+            scene.call(y -> y.flush(tier));
         } else if (kind < 96 && tiers > 0) {
             int tier = random.nextInt(tiers);
             check.due(name + "empty(" + tier + ")", x.empty(tier), plain.empty(tier));
+            scene.call(y -> y.empty(tier));
         } else {
             check.due(name + "peek(" + word + ")", x.peek(word), plain.peek(word));
         }
@@ -88,16 +103,21 @@ public final class LongRunsTest {
     private void callWrongly(int tiers) {
         int far = 1024 + random.nextInt(8);
         switch (random.nextInt(12)) {
-            case 0 -> check.bounds(name + "read(" + far + ")", () -> x.read(far));
-            case 1 -> check.bounds(name + "write(" + far + ")", () -> x.write(far, 1));
-            case 2 -> check.bounds(name + "fill to " + far, () -> x.fill(0, far + 1, 1, 1));
-            case 3 -> check.argument(name + "fill of none", () -> x.fill(0, 0, 1, 1));
-            case 4 -> check.argument(name + "run of 201", () -> x.run(1, 201, span));
-            case 5 -> check.bounds(name + "flush(" + tiers + ")", () -> x.flush(tiers));
-            case 6 -> check.bounds(name + "empty(" + tiers + ")", () -> x.empty(tiers));
-            case 7 -> check.argument(name + "tier of 3 sets", () -> x.tier(3, 1, 0, 0, false));
+            case 0 -> wrongly(BOUNDS, "read(" + far + ")", y -> y.read(far));
+            case 1 -> wrongly(BOUNDS, "write(" + far + ")", y -> y.write(far, 1));
+            case 2 -> wrongly(BOUNDS, "fill to " + far, y -> y.fill(0, far + 1, 1, 1));
+            case 3 -> wrongly(ARGUMENT, "fill of none", y -> y.fill(0, 0, 1, 1));
+            case 4 -> wrongly(ARGUMENT, "run of 201", y -> y.run(1, 201, span));
+            case 5 -> wrongly(BOUNDS, "flush(" + tiers + ")", y -> y.flush(tiers));
+            case 6 -> wrongly(BOUNDS, "empty(" + tiers + ")", y -> y.empty(tiers));
+            case 7 -> wrongly(ARGUMENT, "tier of 3 sets", y -> y.tier(3, 1, 0, 0, false));
             default -> check.due(name + "tiers()", x.tiers(), tiers);
         }
+    }
+
+    private void wrongly(String exception, String text, Consumer<CacheLadder> call) {
+        check.due(name + text, Check.thrownBy(() -> call.accept(x)), exception);
+        scene.call(y -> Check.thrownBy(() -> call.accept(y)));
     }
 
     private void fill(int word) {
@@ -106,6 +126,7 @@ public final class LongRunsTest {
         int step = random.nextInt(5) - 2;
         x.fill(word, n, value, step);
         plain.fill(word, n, value, step);
+        scene.access(y -> y.fill(word, n, value, step));
         for (int i = 0; i < n; i++) {
             newest[word + i] = value + i * step;
         }
@@ -127,6 +148,7 @@ public final class LongRunsTest {
             }
         }
         check.due(name + "run(" + seed + ", " + n + ", " + span + ")", x.run(seed, n, span), want);
+        scene.access(y -> y.run(seed, n, span));
     }
 
     private void compareTraffic(int call) {
@@ -141,8 +163,8 @@ public final class LongRunsTest {
 
     private void compareAll() {
         for (int word = 0; word < 1024; word++) {
-            check.due(name + "stored(" + word + ")", x.stored(word), plain.ground.words[word]);
-            check.due(name + "peek(" + word + ")", x.peek(word), keepsNewest ? newest[word] : plain.peek(word));
+            check.due(name + "stored(" + word + ")", scene.one().stored(word), plain.ground.words[word]);
+            check.due(name + "peek(" + word + ")", scene.one().peek(word), keepsNewest ? newest[word] : plain.peek(word));
         }
         for (PlainLadder.Shelf shelf : plain.shelves) {
             compareShelf(shelf);
@@ -152,19 +174,19 @@ public final class LongRunsTest {
     private void compareShelf(PlainLadder.Shelf shelf) {
         int tier = shelf.number;
         for (int what = 0; what < 6; what++) {
-            check.due(name + "count(" + tier + ", " + what + ")", x.count(tier, what), shelf.counts[what]);
+            check.due(name + "count(" + tier + ", " + what + ")", scene.one().count(tier, what), shelf.counts[what]);
         }
         for (int set = 0; set < shelf.sets; set++) {
             for (int way = 0; way < shelf.ways; way++) {
                 PlainLadder.Card card = shelf.cards[set][way];
                 check.due(name + "line(" + tier + ", " + set + ", " + way + ")",
-                        x.line(tier, set, way), card == null ? -1 : card.block);
+                        scene.one().line(tier, set, way), card == null ? -1 : card.block);
             }
         }
         for (int block = 0; block < 256; block++) {
             PlainLadder.Card card = shelf.card(block);
-            check.due(name + "way(" + tier + ", " + block + ")", x.way(tier, block), shelf.wayOf(block));
-            check.due(name + "dirty(" + tier + ", " + block + ")", x.dirty(tier, block), card == null ? -1 : card.bits());
+            check.due(name + "way(" + tier + ", " + block + ")", scene.one().way(tier, block), shelf.wayOf(block));
+            check.due(name + "dirty(" + tier + ", " + block + ")", scene.one().dirty(tier, block), card == null ? -1 : card.bits());
         }
     }
 }

@@ -1,0 +1,91 @@
+import java.util.function.Consumer;
+
+/**
+ * What only asks, changes nothing: promises 7, 8 and 12 to 19 at the first and last values that
+ * are allowed, a run of no access, and what finds nothing to do: flush and empty of an empty tier.
+ */
+public final class QuietTest {
+    private static final Check check = new Check("QuietTest");
+
+    private final Scene scene;
+
+    private QuietTest(Scene scene) {
+        this.scene = scene;
+    }
+
+    public static void main(String[] args) {
+        for (Scene scene : Scenes.all()) {
+            QuietTest test = new QuietTest(scene);
+            test.ofWords();
+            test.ofAll();
+            for (int tier = 0; tier < scene.tiers(); tier++) {
+                test.ofTier(tier);
+                test.ofPlaces(tier);
+            }
+        }
+        nothingToDo();
+        check.end();
+    }
+
+    private void quiet(String text, Consumer<CacheLadder> call) {
+        CacheLadder x = scene.made();
+        check.due(scene.name + ": " + text, Check.thrownBy(() -> call.accept(x)), "nothing thrown");
+        scene.dueUnchanged(check, text, call);
+    }
+
+    /** "The newest value of a word, without any use or count", and "What the store has". */
+    private void ofWords() {
+        for (int word : new int[] {0, 3, 4, 1020, 1023}) {
+            quiet("peek(" + word + ")", x -> x.peek(word));
+            quiet("stored(" + word + ")", x -> x.stored(word));
+        }
+    }
+
+    private void ofAll() {
+        quiet("traffic(false)", x -> x.traffic(false));
+        quiet("traffic(true)", x -> x.traffic(true));
+        quiet("tiers()", CacheLadder::tiers);
+        quiet("astray()", CacheLadder::astray);
+        quiet("run(7, 0, 1)", x -> check.due("run of no access", x.run(7, 0, 1), 0));
+        quiet("run(7, 0, 1024)", x -> check.due("run of no access", x.run(7, 0, 1024), 0));
+    }
+
+    private void ofTier(int tier) {
+        for (int i = 0; i < 6; i++) {
+            int what = i;
+            quiet("count(" + tier + ", " + what + ")", x -> x.count(tier, what));
+        }
+        for (int block : new int[] {0, 1, 255}) {
+            quiet("way(" + tier + ", " + block + ")", x -> x.way(tier, block));
+            quiet("dirty(" + tier + ", " + block + ")", x -> x.dirty(tier, block));
+        }
+    }
+
+    private void ofPlaces(int tier) {
+        int lastSet = scene.sets(tier) - 1;
+        int lastWay = scene.ways(tier) - 1;
+        quiet("line(" + tier + ", 0, 0)", x -> x.line(tier, 0, 0));
+        quiet("line(" + tier + ", last, last)", x -> x.line(tier, lastSet, lastWay));
+        for (int i = 0; i <= lastSet; i++) {
+            int set = i;
+            quiet("next(" + tier + ", " + set + ")", x -> x.next(tier, set));
+        }
+    }
+
+    private static void nothingToDo() {
+        Scene one = new Scene("one empty tier").tier(2, 2, 2, 1, true);
+        Scene four = new Scene("four empty tiers");
+        for (int writing = 0; writing < 4; writing++) {
+            four.tier(1, 1, writing, writing % 3, writing % 2 == 0);
+        }
+        for (Scene scene : new Scene[] {one, four}) {
+            QuietTest test = new QuietTest(scene);
+            test.quiet("crash()", x -> check.due("crash of nothing", x.crash(), 0));
+            for (int i = 0; i < scene.tiers(); i++) {
+                int tier = i;
+                test.quiet("flush(" + tier + ")", x -> check.due("flush of nothing", x.flush(tier), 0));
+                test.quiet("empty(" + tier + ")", x -> check.due("empty of nothing", x.empty(tier), 0));
+            }
+        }
+    }
+}
