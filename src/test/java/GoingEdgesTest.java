@@ -21,6 +21,7 @@ public final class GoingEdgesTest {
         emptyOfAllLines();
         emptyOfTheLastClosedTier();
         emptyOfTheFirstClosedTier();
+        emptyLeavesTheHand();
         crashOfNoTiers();
         crashOfAllWords();
         crashCountsAWordOnce();
@@ -102,6 +103,11 @@ public final class GoingEdgesTest {
             check.due("words written by tier " + tier, x.count(tier, 5), 3);
         }
         check.due("stored by the last tier", x.stored(1023), 7);
+        check.due("counts of the first tier", Check.counts(x, 0), "0 0 0 1 0 3");
+        check.due("counts of the last tier", Check.counts(x, 3), "0 1 1 0 0 3");
+        x.crash();
+        check.due("counts of the first tier after a crash", Check.counts(x, 0), "0 0 0 1 0 3");
+        check.due("counts of the last tier after a crash", Check.counts(x, 3), "0 1 1 0 0 3");
         check.due("the block's first word is left alone", x.stored(1020), 0);
         check.due("one store", Check.traffic(x), "1 1");
     }
@@ -165,6 +171,27 @@ public final class GoingEdgesTest {
         check.due("empty(0), nothing is above", x.empty(0), 2);
         check.due("tier 1 keeps its lines", Check.set(x, 1, 0, 2), "0 1");
         check.due("with the dirty word", x.dirty(1, 0), 1);
+    }
+
+    /** Only a crash sets the hand to 0: lines that leave by empty leave it where it is. */
+    private static void emptyLeavesTheHand() {
+        CacheLadder x = new CacheLadder();
+        x.tier(2, 3, CLOCK, BACK, false);
+        for (int block : new int[] {1, 3, 5, 7, 9}) {
+            x.read(4 * block);
+        }
+        check.due("the hand is at 2", x.next(0, 1), 5);
+        check.due("empty(0)", x.empty(0), 3);
+        check.due("next of an emptied set", x.next(0, 1), -1);
+        for (int block : new int[] {11, 13, 15}) {
+            x.read(4 * block);
+        }
+        check.due("the hand is still at 2", x.next(0, 1), 15);
+        x.crash();
+        for (int block : new int[] {11, 13, 15}) {
+            x.read(4 * block);
+        }
+        check.due("the hand is at 0", x.next(0, 1), 11);
     }
 
     private static void crashOfNoTiers() {

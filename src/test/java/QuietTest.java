@@ -2,7 +2,8 @@ import java.util.function.Consumer;
 
 /**
  * What only asks, changes nothing: promises 7, 8 and 12 to 19 at the first and last values that
- * are allowed, a run of no access, and what finds nothing to do: flush and empty of an empty tier.
+ * are allowed, a run of no access, and what finds nothing to do: flush of clean lines, and flush,
+ * empty and crash of empty tiers.
  */
 public final class QuietTest {
     private static final Check check = new Check("QuietTest");
@@ -23,7 +24,8 @@ public final class QuietTest {
                 test.ofPlaces(tier);
             }
         }
-        nothingToDo();
+        noLines();
+        cleanLines();
         check.end();
     }
 
@@ -38,6 +40,12 @@ public final class QuietTest {
         for (int word : new int[] {0, 3, 4, 1020, 1023}) {
             quiet("peek(" + word + ")", x -> x.peek(word));
             quiet("stored(" + word + ")", x -> x.stored(word));
+        }
+        for (int block = 0; block < 256; block++) {
+            int word = 4 * block + block % 4;
+            if (scene.tiers() > 0 && scene.one().way(0, block) >= 0) {
+                quiet("peek(" + word + ") of a line", x -> x.peek(word));
+            }
         }
     }
 
@@ -72,11 +80,11 @@ public final class QuietTest {
         }
     }
 
-    private static void nothingToDo() {
+    private static void noLines() {
         Scene one = new Scene("one empty tier").tier(2, 2, 2, 1, true);
         Scene four = new Scene("four empty tiers");
-        for (int writing = 0; writing < 4; writing++) {
-            four.tier(1, 1, writing, writing % 3, writing % 2 == 0);
+        for (int tier = 0; tier < 4; tier++) {
+            four.tier(1, 1, tier, tier % 3, tier % 2 == 0);
         }
         for (Scene scene : new Scene[] {one, four}) {
             QuietTest test = new QuietTest(scene);
@@ -86,6 +94,21 @@ public final class QuietTest {
                 test.quiet("flush(" + tier + ")", x -> check.due("flush of nothing", x.flush(tier), 0));
                 test.quiet("empty(" + tier + ")", x -> check.due("empty of nothing", x.empty(tier), 0));
             }
+        }
+    }
+
+    /** "lines stay": by whatever they are chosen, a flush that finds no dirty word is no use. */
+    private static void cleanLines() {
+        for (int choosing = 0; choosing < 4; choosing++) {
+            Scene scene = new Scene("clean lines by " + choosing);
+            scene.tier(1, 4, choosing, 1, false).tier(1, 4, choosing, 0, true);
+            // Read so that the last line is the first to go, or has the fewest uses, or no mark.
+            for (int block : new int[] {0, 1, 2, 3, 4, 2, 1, 2}) {
+                scene.access(x -> x.read(4 * block));
+            }
+            QuietTest test = new QuietTest(scene);
+            test.quiet("flush(0)", x -> check.due("flush of clean lines", x.flush(0), 0));
+            test.quiet("flush(1)", x -> check.due("flush of clean lines", x.flush(1), 0));
         }
     }
 }

@@ -20,6 +20,7 @@ final class Scenes {
                 new Scene("one tier of one line, new").tier(1, 1, AGE, BACK, true),
                 oneLine(),
                 clockWithRoom(),
+                useWithRoom(),
                 fullTier(),
                 threeTiers("three tiers, new"),
                 openOverClosed("four tiers, new"),
@@ -44,6 +45,15 @@ final class Scenes {
         Scene scene = new Scene("one CLOCK tier with room").tier(4, 3, CLOCK, BACK, false);
         for (int block : new int[] {0, 4, 8, 12, 16, 1, 3, 7, 11, 15, 7}) {
             scene.access(x -> x.write(4 * block + block % 3, block));
+        }
+        return scene;
+    }
+
+    /** Set 1 is full, its eldest line in the middle, set 0 has two lines. */
+    private static Scene useWithRoom() {
+        Scene scene = new Scene("one USE tier with room").tier(2, 4, USE, THROUGH, false);
+        for (int block : new int[] {1, 3, 5, 255, 0, 1, 5, 254}) {
+            scene.access(x -> x.read(4 * block)).access(x -> x.write(4 * block + 1, block));
         }
         return scene;
     }
