@@ -11,11 +11,6 @@ public final class ArgumentsTest {
         9, 15, 16, 17, 31, 32, 199, 200, 201, 254, 255, 256, 1020, 1022, 1023, 1024, 1025, 1 << 16,
         1 << 30, Integer.MAX_VALUE - 1, Integer.MAX_VALUE,
     };
-    private static final String NOTHING = "nothing thrown";
-    private static final String ARGUMENT = "IllegalArgumentException";
-    private static final String BOUNDS = "IndexOutOfBoundsException";
-    private static final String UNSUPPORTED = "UnsupportedOperationException";
-    private static final String STATE = "IllegalStateException";
 
     private final Scene scene;
 
@@ -64,29 +59,30 @@ public final class ArgumentsTest {
     }
 
     private void ofOne(int a) {
-        String word = isWord(a) ? NOTHING : BOUNDS;
+        String word = isWord(a) ? Check.NOTHING : Check.BOUNDS;
         due(word, "read(" + a + ")", x -> x.read(a));
         due(word, "write(" + a + ")", x -> x.write(a, a));
         due(word, "peek(" + a + ")", x -> x.peek(a));
         due(word, "stored(" + a + ")", x -> x.stored(a));
-        String tier = isTier(a) ? NOTHING : BOUNDS;
+        String tier = isTier(a) ? Check.NOTHING : Check.BOUNDS;
         due(tier, "flush(" + a + ")", x -> x.flush(a));
         due(tier, "empty(" + a + ")", x -> x.empty(a));
-        due(NOTHING, "crash()", CacheLadder::crash);
+        due(Check.NOTHING, "crash()", CacheLadder::crash);
     }
 
     private void ofTwo(int a, int b) {
         String pair = "(" + a + ", " + b + ")";
-        due(!isTier(a) ? BOUNDS : 0 <= b && b <= 5 ? NOTHING : ARGUMENT, "count" + pair, x -> x.count(a, b));
-        due(isSet(a, b) ? NOTHING : BOUNDS, "next" + pair, x -> x.next(a, b));
-        String block = isTier(a) && isBlock(b) ? NOTHING : BOUNDS;
+        String count = 0 <= b && b <= 5 ? Check.NOTHING : Check.ARGUMENT;
+        due(isTier(a) ? count : Check.BOUNDS, "count" + pair, x -> x.count(a, b));
+        due(isSet(a, b) ? Check.NOTHING : Check.BOUNDS, "next" + pair, x -> x.next(a, b));
+        String block = isTier(a) && isBlock(b) ? Check.NOTHING : Check.BOUNDS;
         due(block, "way" + pair, x -> x.way(a, b));
         due(block, "dirty" + pair, x -> x.dirty(a, b));
         // In longs, so that the last word cannot go round.
         boolean fills = isWord(a) && (long) a + b - 1 <= 1023;
-        due(b < 1 ? ARGUMENT : fills ? NOTHING : BOUNDS, "fill" + pair, x -> x.fill(a, b, b, a));
+        due(b < 1 ? Check.ARGUMENT : fills ? Check.NOTHING : Check.BOUNDS, "fill" + pair, x -> x.fill(a, b, b, a));
         boolean runs = 0 <= a && a <= 200 && 1 <= b && b <= 1024;
-        due(runs ? NOTHING : ARGUMENT, "run" + pair, x -> x.run(a ^ b, a, b));
+        due(runs ? Check.NOTHING : Check.ARGUMENT, "run" + pair, x -> x.run(a ^ b, a, b));
     }
 
     private void places() {
@@ -94,7 +90,7 @@ public final class ArgumentsTest {
             for (int set : EDGES) {
                 for (int way : EDGES) {
                     int of = tier;
-                    due(isSet(tier, set) && isWay(tier, way) ? NOTHING : BOUNDS,
+                    due(isSet(tier, set) && isWay(tier, way) ? Check.NOTHING : Check.BOUNDS,
                             "line(" + tier + ", " + set + ", " + way + ")", x -> x.line(of, set, way));
                 }
             }
@@ -108,11 +104,11 @@ public final class ArgumentsTest {
     }
 
     private void dueTier(boolean right, int sets, int ways, int choosing, int writing) {
-        String allowed = scene.tiers() == 4 ? UNSUPPORTED : scene.isAccessed() ? STATE : NOTHING;
+        String allowed = scene.tiers() == 4 ? Check.UNSUPPORTED : scene.isAccessed() ? Check.STATE : Check.NOTHING;
         String text = ": tier(" + sets + ", " + ways + ", " + choosing + ", " + writing + ")";
         // Of an object of its own: the others are read and written, or would have a tier more.
         CacheLadder x = scene.made();
         String thrown = Check.thrownBy(() -> x.tier(sets, ways, choosing, writing, false));
-        check.due(scene.name + text, thrown, right ? allowed : ARGUMENT);
+        check.due(scene.name + text, thrown, right ? allowed : Check.ARGUMENT);
     }
 }

@@ -1,5 +1,11 @@
 /** Counts and prints the answers of a test that are not the ones that are due. */
 final class Check {
+    static final String NOTHING = "nothing thrown";
+    static final String ARGUMENT = "IllegalArgumentException";
+    static final String BOUNDS = "IndexOutOfBoundsException";
+    static final String UNSUPPORTED = "UnsupportedOperationException";
+    static final String STATE = "IllegalStateException";
+
     private final String test;
     private int looked;
     private int wrong;
@@ -25,19 +31,19 @@ final class Check {
     }
 
     void argument(String what, Runnable call) {
-        due(what, thrownBy(call), "IllegalArgumentException");
+        due(what, thrownBy(call), ARGUMENT);
     }
 
     void bounds(String what, Runnable call) {
-        due(what, thrownBy(call), "IndexOutOfBoundsException");
+        due(what, thrownBy(call), BOUNDS);
     }
 
     void unsupported(String what, Runnable call) {
-        due(what, thrownBy(call), "UnsupportedOperationException");
+        due(what, thrownBy(call), UNSUPPORTED);
     }
 
     void state(String what, Runnable call) {
-        due(what, thrownBy(call), "IllegalStateException");
+        due(what, thrownBy(call), STATE);
     }
 
     /** The name of what a call throws, or that it throws nothing. */
@@ -47,7 +53,7 @@ final class Check {
         } catch (RuntimeException e) {
             return e.getClass().getSimpleName();
         }
-        return "nothing thrown";
+        return NOTHING;
     }
 
     /** The blocks of the lines of a set, by ways, as a text. */

@@ -11,8 +11,6 @@ public final class LongRunsTest {
     private static final int CALLS = 150;
     // Seldom enough that no object is called more often than 512 times.
     private static final int STEP = 6;
-    private static final String ARGUMENT = "IllegalArgumentException";
-    private static final String BOUNDS = "IndexOutOfBoundsException";
 
     private final String name;
     private final Random random;
@@ -103,14 +101,14 @@ public final class LongRunsTest {
     private void callWrongly(int tiers) {
         int far = 1024 + random.nextInt(8);
         switch (random.nextInt(12)) {
-            case 0 -> wrongly(BOUNDS, "read(" + far + ")", y -> y.read(far));
-            case 1 -> wrongly(BOUNDS, "write(" + far + ")", y -> y.write(far, 1));
-            case 2 -> wrongly(BOUNDS, "fill to " + far, y -> y.fill(0, far + 1, 1, 1));
-            case 3 -> wrongly(ARGUMENT, "fill of none", y -> y.fill(0, 0, 1, 1));
-            case 4 -> wrongly(ARGUMENT, "run of 201", y -> y.run(1, 201, span));
-            case 5 -> wrongly(BOUNDS, "flush(" + tiers + ")", y -> y.flush(tiers));
-            case 6 -> wrongly(BOUNDS, "empty(" + tiers + ")", y -> y.empty(tiers));
-            case 7 -> wrongly(ARGUMENT, "tier of 3 sets", y -> y.tier(3, 1, 0, 0, false));
+            case 0 -> wrongly(Check.BOUNDS, "read(" + far + ")", y -> y.read(far));
+            case 1 -> wrongly(Check.BOUNDS, "write(" + far + ")", y -> y.write(far, 1));
+            case 2 -> wrongly(Check.BOUNDS, "fill to " + far, y -> y.fill(0, far + 1, 1, 1));
+            case 3 -> wrongly(Check.ARGUMENT, "fill of none", y -> y.fill(0, 0, 1, 1));
+            case 4 -> wrongly(Check.ARGUMENT, "run of 201", y -> y.run(1, 201, span));
+            case 5 -> wrongly(Check.BOUNDS, "flush(" + tiers + ")", y -> y.flush(tiers));
+            case 6 -> wrongly(Check.BOUNDS, "empty(" + tiers + ")", y -> y.empty(tiers));
+            case 7 -> wrongly(Check.ARGUMENT, "tier of 3 sets", y -> y.tier(3, 1, 0, 0, false));
             default -> check.due(name + "tiers()", x.tiers(), tiers);
         }
     }

@@ -31,7 +31,7 @@ public final class QuietTest {
 
     private void quiet(String text, Consumer<CacheLadder> call) {
         CacheLadder x = scene.made();
-        check.due(scene.name + ": " + text, Check.thrownBy(() -> call.accept(x)), "nothing thrown");
+        check.due(scene.name + ": " + text, Check.thrownBy(() -> call.accept(x)), Check.NOTHING);
         scene.dueUnchanged(check, text, call);
     }
 

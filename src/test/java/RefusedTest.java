@@ -12,10 +12,6 @@ public final class RefusedTest {
     private static final int[] NO_WORDS = {LEAST, -1, 1024, MOST};
     private static final int[] NO_BLOCKS = {LEAST, -1, 256, MOST};
     private static final int[] NO_COUNTS = {LEAST, -1, 6, MOST};
-    private static final String ARGUMENT = "IllegalArgumentException";
-    private static final String BOUNDS = "IndexOutOfBoundsException";
-    private static final String UNSUPPORTED = "UnsupportedOperationException";
-    private static final String STATE = "IllegalStateException";
 
     private final Scene scene;
     private final int[] noTiers;
@@ -51,7 +47,7 @@ public final class RefusedTest {
 
     private void refusedShape(int sets, int ways, int choosing, int writing) {
         String text = "tier(" + sets + ", " + ways + ", " + choosing + ", " + writing + ")";
-        refused(ARGUMENT, text, x -> x.tier(sets, ways, choosing, writing, true));
+        refused(Check.ARGUMENT, text, x -> x.tier(sets, ways, choosing, writing, true));
     }
 
     /** "IllegalArgument: no such sets, ways, choosing (0 .. 3) or writing (0 .. 2)", in any state. */
@@ -76,11 +72,11 @@ public final class RefusedTest {
     /** "UnsupportedOperation: there are 4. IllegalState: a word was read or written before." */
     private void tierTooMany() {
         if (scene.tiers() == 4) {
-            refused(UNSUPPORTED, "tier(1, 1, 0, 0)", x -> x.tier(1, 1, 0, 0, false));
-            refused(UNSUPPORTED, "tier(16, 4, 3, 2)", x -> x.tier(16, 4, 3, 2, true));
+            refused(Check.UNSUPPORTED, "tier(1, 1, 0, 0)", x -> x.tier(1, 1, 0, 0, false));
+            refused(Check.UNSUPPORTED, "tier(16, 4, 3, 2)", x -> x.tier(16, 4, 3, 2, true));
         } else if (scene.isAccessed()) {
-            refused(STATE, "tier(1, 1, 0, 0)", x -> x.tier(1, 1, 0, 0, false));
-            refused(STATE, "tier(16, 4, 3, 2)", x -> x.tier(16, 4, 3, 2, true));
+            refused(Check.STATE, "tier(1, 1, 0, 0)", x -> x.tier(1, 1, 0, 0, false));
+            refused(Check.STATE, "tier(16, 4, 3, 2)", x -> x.tier(16, 4, 3, 2, true));
         } else {
             check.due(scene.name + ": one tier more", scene.made().tier(16, 4, 3, 2, true), scene.tiers());
         }
@@ -89,10 +85,10 @@ public final class RefusedTest {
     /** "IndexOutOfBounds: there is no such word": read, write, peek and stored. */
     private void words() {
         for (int word : NO_WORDS) {
-            refused(BOUNDS, "read(" + word + ")", x -> x.read(word));
-            refused(BOUNDS, "write(" + word + ")", x -> x.write(word, 1));
-            refused(BOUNDS, "peek(" + word + ")", x -> x.peek(word));
-            refused(BOUNDS, "stored(" + word + ")", x -> x.stored(word));
+            refused(Check.BOUNDS, "read(" + word + ")", x -> x.read(word));
+            refused(Check.BOUNDS, "write(" + word + ")", x -> x.write(word, 1));
+            refused(Check.BOUNDS, "peek(" + word + ")", x -> x.peek(word));
+            refused(Check.BOUNDS, "stored(" + word + ")", x -> x.stored(word));
         }
     }
 
@@ -103,31 +99,31 @@ public final class RefusedTest {
     /** "IllegalArgument: n is below 1", which comes before a wrong word. */
     private void fillOfTooFew() {
         for (int n : new int[] {LEAST, -1, 0}) {
-            refusedFill(ARGUMENT, 0, n);
-            refusedFill(ARGUMENT, 1023, n);
-            refusedFill(ARGUMENT, -1, n);
-            refusedFill(ARGUMENT, 1024, n);
+            refusedFill(Check.ARGUMENT, 0, n);
+            refusedFill(Check.ARGUMENT, 1023, n);
+            refusedFill(Check.ARGUMENT, -1, n);
+            refusedFill(Check.ARGUMENT, 1024, n);
         }
-        refusedFill(ARGUMENT, LEAST, LEAST);
-        refusedFill(ARGUMENT, MOST, 0);
+        refusedFill(Check.ARGUMENT, LEAST, LEAST);
+        refusedFill(Check.ARGUMENT, MOST, 0);
     }
 
     /** "IndexOutOfBounds: there is no such word, or the last one", also where word + n wraps. */
     private void fillOfNoSuchWord() {
         for (int word : NO_WORDS) {
-            refusedFill(BOUNDS, word, 1);
-            refusedFill(BOUNDS, word, MOST);
+            refusedFill(Check.BOUNDS, word, 1);
+            refusedFill(Check.BOUNDS, word, MOST);
         }
-        refusedFill(BOUNDS, -1, 2);
-        refusedFill(BOUNDS, -1, 1025);
+        refusedFill(Check.BOUNDS, -1, 2);
+        refusedFill(Check.BOUNDS, -1, 1025);
         for (int word : new int[] {0, 1, 512, 1020, 1023}) {
-            refusedFill(BOUNDS, word, 1025 - word);
-            refusedFill(BOUNDS, word, MOST);
+            refusedFill(Check.BOUNDS, word, 1025 - word);
+            refusedFill(Check.BOUNDS, word, MOST);
         }
     }
 
     private void refusedRun(int seed, int n, int span) {
-        refused(ARGUMENT, "run(" + seed + ", " + n + ", " + span + ")", x -> x.run(seed, n, span));
+        refused(Check.ARGUMENT, "run(" + seed + ", " + n + ", " + span + ")", x -> x.run(seed, n, span));
     }
 
     /** "IllegalArgument: n is not 0 .. 200". */
@@ -151,19 +147,19 @@ public final class RefusedTest {
     /** "IndexOutOfBounds: there is no such tier", which comes before a wrong count. */
     private void noSuchTier() {
         for (int tier : noTiers) {
-            refused(BOUNDS, "flush(" + tier + ")", x -> x.flush(tier));
-            refused(BOUNDS, "empty(" + tier + ")", x -> x.empty(tier));
-            refused(BOUNDS, "line(" + tier + ", 0, 0)", x -> x.line(tier, 0, 0));
-            refused(BOUNDS, "line(" + tier + ", -1, -1)", x -> x.line(tier, -1, -1));
-            refused(BOUNDS, "way(" + tier + ", 0)", x -> x.way(tier, 0));
-            refused(BOUNDS, "way(" + tier + ", 256)", x -> x.way(tier, 256));
-            refused(BOUNDS, "dirty(" + tier + ", 0)", x -> x.dirty(tier, 0));
-            refused(BOUNDS, "dirty(" + tier + ", 256)", x -> x.dirty(tier, 256));
-            refused(BOUNDS, "next(" + tier + ", 0)", x -> x.next(tier, 0));
-            refused(BOUNDS, "next(" + tier + ", -1)", x -> x.next(tier, -1));
-            refused(BOUNDS, "count(" + tier + ", 0)", x -> x.count(tier, 0));
+            refused(Check.BOUNDS, "flush(" + tier + ")", x -> x.flush(tier));
+            refused(Check.BOUNDS, "empty(" + tier + ")", x -> x.empty(tier));
+            refused(Check.BOUNDS, "line(" + tier + ", 0, 0)", x -> x.line(tier, 0, 0));
+            refused(Check.BOUNDS, "line(" + tier + ", -1, -1)", x -> x.line(tier, -1, -1));
+            refused(Check.BOUNDS, "way(" + tier + ", 0)", x -> x.way(tier, 0));
+            refused(Check.BOUNDS, "way(" + tier + ", 256)", x -> x.way(tier, 256));
+            refused(Check.BOUNDS, "dirty(" + tier + ", 0)", x -> x.dirty(tier, 0));
+            refused(Check.BOUNDS, "dirty(" + tier + ", 256)", x -> x.dirty(tier, 256));
+            refused(Check.BOUNDS, "next(" + tier + ", 0)", x -> x.next(tier, 0));
+            refused(Check.BOUNDS, "next(" + tier + ", -1)", x -> x.next(tier, -1));
+            refused(Check.BOUNDS, "count(" + tier + ", 0)", x -> x.count(tier, 0));
             for (int what : NO_COUNTS) {
-                refused(BOUNDS, "count(" + tier + ", " + what + ")", x -> x.count(tier, what));
+                refused(Check.BOUNDS, "count(" + tier + ", " + what + ")", x -> x.count(tier, what));
             }
         }
     }
@@ -173,7 +169,7 @@ public final class RefusedTest {
         for (int i = 0; i < scene.tiers(); i++) {
             int tier = i;
             for (int what : NO_COUNTS) {
-                refused(ARGUMENT, "count(" + tier + ", " + what + ")", x -> x.count(tier, what));
+                refused(Check.ARGUMENT, "count(" + tier + ", " + what + ")", x -> x.count(tier, what));
             }
         }
     }
@@ -185,17 +181,17 @@ public final class RefusedTest {
             int sets = scene.sets(tier);
             int ways = scene.ways(tier);
             for (int set : new int[] {LEAST, -1, sets, 16, MOST}) {
-                refused(BOUNDS, "next(" + tier + ", " + set + ")", x -> x.next(tier, set));
-                refused(BOUNDS, "line(" + tier + ", " + set + ", 0)", x -> x.line(tier, set, 0));
-                refused(BOUNDS, "line(" + tier + ", " + set + ", -1)", x -> x.line(tier, set, -1));
+                refused(Check.BOUNDS, "next(" + tier + ", " + set + ")", x -> x.next(tier, set));
+                refused(Check.BOUNDS, "line(" + tier + ", " + set + ", 0)", x -> x.line(tier, set, 0));
+                refused(Check.BOUNDS, "line(" + tier + ", " + set + ", -1)", x -> x.line(tier, set, -1));
             }
             for (int way : new int[] {LEAST, -1, ways, 4, MOST}) {
-                refused(BOUNDS, "line(" + tier + ", 0, " + way + ")", x -> x.line(tier, 0, way));
-                refused(BOUNDS, "line(" + tier + ", last set, " + way + ")", x -> x.line(tier, sets - 1, way));
+                refused(Check.BOUNDS, "line(" + tier + ", 0, " + way + ")", x -> x.line(tier, 0, way));
+                refused(Check.BOUNDS, "line(" + tier + ", last set, " + way + ")", x -> x.line(tier, sets - 1, way));
             }
             // With set * ways + way a place of the tier, so that only the set and the way tell.
-            refused(BOUNDS, "line(" + tier + ", 1, -ways)", x -> x.line(tier, 1, -ways));
-            refused(BOUNDS, "line(" + tier + ", -1, ways)", x -> x.line(tier, -1, ways));
+            refused(Check.BOUNDS, "line(" + tier + ", 1, -ways)", x -> x.line(tier, 1, -ways));
+            refused(Check.BOUNDS, "line(" + tier + ", -1, ways)", x -> x.line(tier, -1, ways));
         }
     }
 
@@ -204,8 +200,8 @@ public final class RefusedTest {
         for (int i = 0; i < scene.tiers(); i++) {
             int tier = i;
             for (int block : NO_BLOCKS) {
-                refused(BOUNDS, "way(" + tier + ", " + block + ")", x -> x.way(tier, block));
-                refused(BOUNDS, "dirty(" + tier + ", " + block + ")", x -> x.dirty(tier, block));
+                refused(Check.BOUNDS, "way(" + tier + ", " + block + ")", x -> x.way(tier, block));
+                refused(Check.BOUNDS, "dirty(" + tier + ", " + block + ")", x -> x.dirty(tier, block));
             }
         }
     }

@@ -87,7 +87,7 @@ public final class TierEdgesTest {
                 && (choosing == 0 || choosing == 3) && (writing == 0 || writing == 2);
         CacheLadder x = new CacheLadder();
         String thrown = Check.thrownBy(() -> x.tier(sets, ways, choosing, writing, true));
-        String due = right ? "nothing thrown" : "IllegalArgumentException";
+        String due = right ? Check.NOTHING : Check.ARGUMENT;
         check.due(shape(sets, ways, choosing, writing), thrown, due);
         check.due("tiers() after it", x.tiers(), right ? 1 : 0);
     }
