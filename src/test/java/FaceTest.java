@@ -3,27 +3,33 @@ import java.lang.reflect.Executable;
 import java.lang.reflect.Field;
 import java.lang.reflect.Method;
 import java.lang.reflect.Modifier;
+import java.lang.reflect.Parameter;
+import java.util.ArrayList;
+import java.util.List;
 import java.util.TreeSet;
 
-/** The class has the document's face, with its throws clauses, and nothing else to be seen. */
+/**
+ * The class has the document's face, with its throws clauses, and nothing else to be seen. The
+ * names of parameters are there to be asked because .ci/run compiles with -parameters.
+ */
 public final class FaceTest {
     private static final String[] FACE = {
-        "int tier(int, int, int, int, boolean) IllegalArgumentException, UnsupportedOperationException, IllegalStateException",
-        "int read(int) IndexOutOfBoundsException",
-        "void write(int, int) IndexOutOfBoundsException",
-        "void fill(int, int, int, int) IllegalArgumentException, IndexOutOfBoundsException",
-        "int run(int, int, int) IllegalArgumentException",
-        "int peek(int) IndexOutOfBoundsException",
-        "int stored(int) IndexOutOfBoundsException",
-        "int flush(int) IndexOutOfBoundsException",
-        "int empty(int) IndexOutOfBoundsException",
+        "int tier(int sets, int ways, int choosing, int writing, boolean closed) IllegalArgumentException, UnsupportedOperationException, IllegalStateException",
+        "int read(int word) IndexOutOfBoundsException",
+        "void write(int word, int value) IndexOutOfBoundsException",
+        "void fill(int word, int n, int value, int step) IllegalArgumentException, IndexOutOfBoundsException",
+        "int run(int seed, int n, int span) IllegalArgumentException",
+        "int peek(int word) IndexOutOfBoundsException",
+        "int stored(int word) IndexOutOfBoundsException",
+        "int flush(int tier) IndexOutOfBoundsException",
+        "int empty(int tier) IndexOutOfBoundsException",
         "int crash() ",
-        "int count(int, int) IndexOutOfBoundsException, IllegalArgumentException",
-        "int traffic(boolean) ",
-        "int line(int, int, int) IndexOutOfBoundsException",
-        "int way(int, int) IndexOutOfBoundsException",
-        "int dirty(int, int) IndexOutOfBoundsException",
-        "int next(int, int) IndexOutOfBoundsException",
+        "int count(int tier, int what) IndexOutOfBoundsException, IllegalArgumentException",
+        "int traffic(boolean stores) ",
+        "int line(int tier, int set, int way) IndexOutOfBoundsException",
+        "int way(int tier, int block) IndexOutOfBoundsException",
+        "int dirty(int tier, int block) IndexOutOfBoundsException",
+        "int next(int tier, int set) IndexOutOfBoundsException",
         "int tiers() ",
         "int astray() ",
     };
@@ -35,6 +41,7 @@ public final class FaceTest {
         checkMethods(check, face);
         checkConstructors(check, face);
         checkFields(check, face);
+        checkClassesInside(check, face);
         check.end();
     }
 
@@ -47,7 +54,7 @@ public final class FaceTest {
                 names.add(m.getName());
             }
         }
-        check.due("methods", String.join("; ", seen), String.join("; ", new TreeSet<>(java.util.List.of(FACE))));
+        check.due("methods", String.join("; ", seen), String.join("; ", new TreeSet<>(List.of(FACE))));
         for (Method m : face.getDeclaredMethods()) {
             if (Modifier.isPrivate(m.getModifiers())) {
                 check.due("private methods named " + m.getName(), names.contains(m.getName()) ? 1 : 0, 0);
@@ -71,15 +78,24 @@ public final class FaceTest {
         }
     }
 
-    private static String told(Executable e) {
-        return "(" + names(e.getParameterTypes()) + ") " + names(e.getExceptionTypes());
+    private static void checkClassesInside(Check check, Class<?> face) {
+        for (Class<?> inside : face.getDeclaredClasses()) {
+            int modifiers = inside.getModifiers();
+            boolean seen = Modifier.isPublic(modifiers) || Modifier.isProtected(modifiers);
+            check.due("class " + inside.getSimpleName() + " is to be seen", seen ? 1 : 0, 0);
+            check.due("class " + inside.getSimpleName() + " is static", Modifier.isStatic(modifiers) ? 1 : 0, 1);
+        }
     }
 
-    private static String names(Class<?>[] types) {
-        StringBuilder names = new StringBuilder();
-        for (Class<?> type : types) {
-            names.append(names.length() == 0 ? "" : ", ").append(type.getSimpleName());
+    private static String told(Executable e) {
+        List<String> parameters = new ArrayList<>();
+        for (Parameter p : e.getParameters()) {
+            parameters.add(p.getType().getSimpleName() + " " + p.getName());
         }
-        return names.toString();
+        List<String> exceptions = new ArrayList<>();
+        for (Class<?> exception : e.getExceptionTypes()) {
+            exceptions.add(exception.getSimpleName());
+        }
+        return "(" + String.join(", ", parameters) + ") " + String.join(", ", exceptions);
     }
 }

@@ -1,3 +1,4 @@
+import java.util.List;
 import java.util.Random;
 import java.util.function.Consumer;
 
@@ -7,7 +8,6 @@ import java.util.function.Consumer;
  */
 public final class LongRunsTest {
     private static final Check check = new Check("LongRunsTest");
-    private static final int RUNS = 1200;
     private static final int CALLS = 150;
     // Seldom enough that no object is called more often than 512 times.
     private static final int STEP = 6;
@@ -18,11 +18,14 @@ public final class LongRunsTest {
     private final Scene scene;
     private final PlainLadder plain = new PlainLadder();
     private final int[] newest = new int[1024];
+    private final List<Ladders.Shape> ladder;
+    private final int tiers;
     private final int span;
-    private boolean keepsNewest = true;
 
-    private LongRunsTest(int seed) {
+    private LongRunsTest(int seed, List<Ladders.Shape> ladder) {
         name = "run " + seed + ", ";
+        this.ladder = ladder;
+        tiers = ladder.size();
         scene = new Scene(name);
         // The seed is fixed, so that each run is the same each time.
         random = new Random(seed);
@@ -30,20 +33,21 @@ public final class LongRunsTest {
     }
 
     public static void main(String[] args) {
-        for (int seed = 0; seed < RUNS; seed++) {
-            new LongRunsTest(seed).play();
+        Ladders.dueAllKinds(check);
+        List<List<Ladders.Shape>> all = Ladders.all();
+        for (int seed = 0; seed < all.size(); seed++) {
+            new LongRunsTest(seed, all.get(seed)).play();
         }
         check.end();
     }
 
     private void play() {
-        int tiers = random.nextInt(10) == 0 ? 0 : 1 + random.nextInt(4);
-        for (int tier = 0; tier < tiers; tier++) {
-            addTier(tier);
+        for (Ladders.Shape shape : ladder) {
+            addTier(shape.sets(), shape.ways(), shape.choosing(), shape.writing(), shape.closed());
         }
         for (int call = 0; call < CALLS; call++) {
-            callOne(tiers);
-            callWrongly(tiers);
+            callOne();
+            callWrongly();
             if (call % STEP == 0) {
                 compareTraffic(call);
             }
@@ -51,20 +55,13 @@ public final class LongRunsTest {
         compareAll();
     }
 
-    private void addTier(int tier) {
-        int sets = 1 << random.nextInt(random.nextBoolean() ? 2 : 5);
-        int ways = 1 + random.nextInt(4);
-        int choosing = random.nextInt(4);
-        int writing = random.nextInt(3);
-        boolean closed = random.nextInt(3) == 0;
-        // Two tiers above can have a word dirty each; then the older one may be written last.
-        keepsNewest &= !(closed && writing == 2 && tier >= 2);
-        check.due(name + "tier", x.tier(sets, ways, choosing, writing, closed), tier);
+    private void addTier(int sets, int ways, int choosing, int writing, boolean closed) {
+        check.due(name + "tier", x.tier(sets, ways, choosing, writing, closed), plain.shelves.size());
         plain.tier(sets, ways, choosing, writing, closed);
         scene.tier(sets, ways, choosing, writing, closed);
     }
 
-    private void callOne(int tiers) {
+    private void callOne() {
         int word = random.nextInt(span);
         int kind = random.nextInt(100);
         if (kind < 35) {
@@ -98,7 +95,7 @@ public final class LongRunsTest {
     }
 
     /** A call that throws changes nothing: what is compared later tells. */
-    private void callWrongly(int tiers) {
+    private void callWrongly() {
         int far = 1024 + random.nextInt(8);
         switch (random.nextInt(12)) {
             case 0 -> wrongly(Check.BOUNDS, "read(" + far + ")", y -> y.read(far));
@@ -160,6 +157,7 @@ public final class LongRunsTest {
     }
 
     private void compareAll() {
+        boolean keepsNewest = Ladders.keepsNewest(ladder);
         for (int word = 0; word < 1024; word++) {
             check.due(name + "stored(" + word + ")", scene.one().stored(word), plain.ground.words[word]);
             check.due(name + "peek(" + word + ")", scene.one().peek(word), keepsNewest ? newest[word] : plain.peek(word));
